@@ -164,10 +164,10 @@ public final class PolledLine {
                 line.addMessage(number, script.second[statement], script.third[statement]);
                 return true;
             case Script.KILL:
-                line.stations.alive[number] = 0;
+                line.setLife(number, 0);
                 return true;
             case Script.WAKE:
-                line.stations.alive[number] = 1;
+                line.setLife(number, 1);
                 return true;
             case Script.TURNS:
                 if (line.turn + number > MAX_TURN) {
@@ -216,7 +216,7 @@ public final class PolledLine {
             case 7:
             case 8:
             case 9:
-                return line.messages.inState[what - 6];
+                return line.messages.countIn(what - 6);
             case 10:
                 return setup.size - line.sumOf(line.stations.on);
             case 11:
@@ -362,7 +362,7 @@ public final class PolledLine {
     public int gap() {
         int less = line.messages.size;
         for (int i = 0; i < STATES; i++) {
-            less -= line.messages.inState[i];
+            less -= line.messages.countIn(i);
         }
         return less;
     }
@@ -517,21 +517,16 @@ public final class PolledLine {
         if (!setup.has(terminal)) {
             throw new IndexOutOfBoundsException();
         }
-        return changeLife(terminal, 0);
+        history.remember(line);
+        return line.setLife(terminal, 0);
     }
 
     public int wake(int terminal) throws IndexOutOfBoundsException {
         if (!setup.has(terminal)) {
             throw new IndexOutOfBoundsException();
         }
-        return changeLife(terminal, 1);
-    }
-
-    private int changeLife(int terminal, int alive) {
         history.remember(line);
-        int before = line.stations.alive[terminal];
-        line.stations.alive[terminal] = alive;
-        return before;
+        return line.setLife(terminal, 1);
     }
 
     public int run(int turns) throws IllegalArgumentException {
@@ -727,15 +722,6 @@ public final class PolledLine {
         final int[] hostTimes = new int[MAX_MESSAGES];
         final int[] bufferTimes = new int[MAX_MESSAGES];
         final int[] deliveryTimes = new int[MAX_MESSAGES];
-        /** How many messages are in each state. */
-        final int[] inState = new int[STATES];
-
-        void clear() {
-            size = 0;
-            for (int i = 0; i < STATES; i++) {
-                inState[i] = 0;
-            }
-        }
 
         boolean has(int message) {
             return message >= 0 && message < size;
@@ -745,10 +731,15 @@ public final class PolledLine {
             return size >= MAX_MESSAGES;
         }
 
-        void changeState(int message, int state) {
-            inState[states[message]]--;
-            states[message] = state;
-            inState[state]++;
+        /** How many messages are in a state. */
+        int countIn(int state) {
+            int sum = 0;
+            for (int i = 0; i < size; i++) {
+                if (states[i] == state) {
+                    sum++;
+                }
+            }
+            return sum;
         }
 
         /** The sum of the times from when the delivered ones were posted. */
@@ -772,7 +763,6 @@ public final class PolledLine {
             System.arraycopy(other.hostTimes, 0, hostTimes, 0, size);
             System.arraycopy(other.bufferTimes, 0, bufferTimes, 0, size);
             System.arraycopy(other.deliveryTimes, 0, deliveryTimes, 0, size);
-            System.arraycopy(other.inState, 0, inState, 0, STATES);
         }
     }
 
@@ -781,44 +771,57 @@ public final class PolledLine {
      * one row of each kind at once, as the one who sent it keeps it until it is answered.
      */
     private static final class Rows {
-        private final int[] firsts = new int[ROWS * MAX_TERMINALS];
-        private final int[] lasts = new int[ROWS * MAX_TERMINALS];
-        private final int[] sizes = new int[ROWS * MAX_TERMINALS];
-        private final int[] nexts = new int[ROWS * MAX_MESSAGES];
+        private static final int ENDS = ROWS * MAX_TERMINALS;
+        private static final int LINKS = ROWS * MAX_MESSAGES;
+
+        private final int[] firsts = new int[ENDS];
+        private final int[] lasts = new int[ENDS];
+        private final int[] sizes = new int[ENDS];
+        private final int[] nexts = new int[LINKS];
 
         void clear() {
-            for (int i = 0; i < ROWS * MAX_TERMINALS; i++) {
+            for (int i = 0; i < ENDS; i++) {
                 sizes[i] = 0;
             }
         }
 
         int sizeOf(int row, int terminal) {
-            return sizes[row * MAX_TERMINALS + terminal];
+            int at = row * MAX_TERMINALS + terminal;
+            return at >= 0 && at < ENDS ? sizes[at] : 0;
         }
 
         int firstOf(int row, int terminal) {
             int at = row * MAX_TERMINALS + terminal;
-            return sizes[at] == 0 ? NONE : firsts[at];
+            return at >= 0 && at < ENDS && sizes[at] > 0 ? firsts[at] : NONE;
+        }
+
+        /** The message behind another one; behind the last one of a row it means nothing. */
+        private int nextOf(int row, int message) {
+            int at = row * MAX_MESSAGES + message;
+            return at >= 0 && at < LINKS ? nexts[at] : NONE;
         }
 
         int messageAt(int row, int terminal, int index) {
-            int at = row * MAX_TERMINALS + terminal;
-            if (index < 0 || index >= sizes[at]) {
+            if (index < 0 || index >= sizeOf(row, terminal)) {
                 return NONE;
             }
-            int message = firsts[at];
+            int message = firstOf(row, terminal);
             for (int i = 0; i < index; i++) {
-                message = nexts[row * MAX_MESSAGES + message];
+                message = nextOf(row, message);
             }
             return message;
         }
 
         void append(int row, int terminal, int message) {
             int at = row * MAX_TERMINALS + terminal;
+            if (at < 0 || at >= ENDS) {
+                return;
+            }
+            int last = row * MAX_MESSAGES + lasts[at];
             if (sizes[at] == 0) {
                 firsts[at] = message;
-            } else {
-                nexts[row * MAX_MESSAGES + lasts[at]] = message;
+            } else if (last >= 0 && last < LINKS) {
+                nexts[last] = message;
             }
             lasts[at] = message;
             sizes[at]++;
@@ -826,17 +829,17 @@ public final class PolledLine {
 
         void removeFirst(int row, int terminal) {
             int at = row * MAX_TERMINALS + terminal;
-            if (sizes[at] > 0) {
+            if (at >= 0 && at < ENDS && sizes[at] > 0) {
                 sizes[at]--;
-                firsts[at] = nexts[row * MAX_MESSAGES + firsts[at]];
+                firsts[at] = nextOf(row, firsts[at]);
             }
         }
 
         void copyFrom(Rows other) {
-            System.arraycopy(other.firsts, 0, firsts, 0, ROWS * MAX_TERMINALS);
-            System.arraycopy(other.lasts, 0, lasts, 0, ROWS * MAX_TERMINALS);
-            System.arraycopy(other.sizes, 0, sizes, 0, ROWS * MAX_TERMINALS);
-            System.arraycopy(other.nexts, 0, nexts, 0, ROWS * MAX_MESSAGES);
+            System.arraycopy(other.firsts, 0, firsts, 0, ENDS);
+            System.arraycopy(other.lasts, 0, lasts, 0, ENDS);
+            System.arraycopy(other.sizes, 0, sizes, 0, ENDS);
+            System.arraycopy(other.nexts, 0, nexts, 0, LINKS);
         }
     }
 
@@ -958,7 +961,7 @@ public final class PolledLine {
 
         /** Begins as a setup tells that was read without an error. */
         void begin(SetupReader reader) {
-            messages.clear();
+            messages.size = 0;
             rows.clear();
             stations.clear();
             log.clear();
@@ -996,7 +999,7 @@ public final class PolledLine {
         }
 
         int delivered() {
-            return messages.inState[DELIVERED];
+            return messages.countIn(DELIVERED);
         }
 
         int sumOf(int[] flags) {
@@ -1005,6 +1008,20 @@ public final class PolledLine {
                 sum += flags[i];
             }
             return sum;
+        }
+
+        boolean isOn(int terminal) {
+            return setup.has(terminal) && stations.on[terminal] == 1;
+        }
+
+        /** Makes a terminal alive, 1, or dead, 0; what it was before. */
+        int setLife(int terminal, int alive) {
+            if (!setup.has(terminal)) {
+                return 0;
+            }
+            int before = stations.alive[terminal];
+            stations.alive[terminal] = alive;
+            return before;
         }
 
         boolean hasPlace(int place) {
@@ -1052,7 +1069,6 @@ public final class PolledLine {
             messages.deliveryTimes[message] = NONE;
             int row = sender == NONE ? AT_HOST : OUT;
             messages.states[message] = row;
-            messages.inState[row]++;
             rows.append(row, sender == NONE ? receiver : sender, message);
             return message;
         }
@@ -1077,9 +1093,9 @@ public final class PolledLine {
             int receiver = messages.receivers[message];
             if (receiver == NONE) {
                 messages.deliveryTimes[message] = time;
-                messages.changeState(message, DELIVERED);
+                messages.states[message] = DELIVERED;
             } else {
-                messages.changeState(message, AT_HOST);
+                messages.states[message] = AT_HOST;
                 rows.append(AT_HOST, receiver, message);
             }
         }
@@ -1091,7 +1107,7 @@ public final class PolledLine {
                 stations.firstSince[terminal] = time;
             }
             messages.bufferTimes[message] = time;
-            messages.changeState(message, BUFFER);
+            messages.states[message] = BUFFER;
             rows.append(BUFFER, terminal, message);
         }
 
@@ -1100,12 +1116,12 @@ public final class PolledLine {
             for (int i = 0; i < MAX_MESSAGES; i++) {
                 int message = rows.firstOf(BUFFER, terminal);
                 int due = stations.firstSince[terminal] + setup.prints[terminal];
-                if (message == NONE || due > time) {
+                if (!messages.has(message) || due > time) {
                     return;
                 }
                 rows.removeFirst(BUFFER, terminal);
                 messages.deliveryTimes[message] = due;
-                messages.changeState(message, DELIVERED);
+                messages.states[message] = DELIVERED;
                 stations.firstSince[terminal] = due;
             }
         }
@@ -1163,7 +1179,7 @@ public final class PolledLine {
             int size = line.setup.size;
             for (int i = 1; i <= size; i++) {
                 int next = (line.lastSelected + i) % size;
-                if (line.stations.on[next] == 1 && line.rows.sizeOf(AT_HOST, next) > 0) {
+                if (line.isOn(next) && line.rows.sizeOf(AT_HOST, next) > 0) {
                     return next;
                 }
             }
@@ -1175,7 +1191,7 @@ public final class PolledLine {
             int last = line.lastPlace < size ? line.lastPlace : size - 1;
             for (int i = 1; i <= size; i++) {
                 int next = (last + i) % size;
-                if (line.stations.on[line.list[next]] == 1) {
+                if (line.isOn(line.list[next])) {
                     return next;
                 }
             }
@@ -1263,7 +1279,7 @@ public final class PolledLine {
                 return MISSED;
             }
             int message = line.rows.firstOf(OUT, terminal);
-            if (message == NONE) {
+            if (!line.messages.has(message)) {
                 if (!line.send(1)) {
                     return MISSED;
                 }
@@ -1291,7 +1307,7 @@ public final class PolledLine {
         /** How a try of a select ended: MISSED if it failed. */
         private int trySelect() {
             int message = line.rows.firstOf(AT_HOST, terminal);
-            if (message == NONE || !call()) {
+            if (!line.messages.has(message) || !call()) {
                 return MISSED;
             }
             line.deliverDue(terminal);

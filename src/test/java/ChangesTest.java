@@ -13,6 +13,8 @@ public final class ChangesTest {
         set();
         undo();
         undoOfEach();
+        turnsBehindUndo();
+        undoneMessages();
         whatIsNoChange();
         savedState();
         savedStateAndUndo();
@@ -199,6 +201,44 @@ public final class ChangesTest {
         }
         Check.due("the output stays", Check.output(line), "b a");
         Check.due("the input stays", line.playScript() + " " + line.errorOffset(), "-1 19");
+    }
+
+    /** The turns behind an undo, or behind restoreState, are those that would have come. */
+    private static void turnsBehindUndo() {
+        PolledLine line = Check.loaded("terminal a;terminal b;terminal c;list a b c;line 1 1 1 3;burst 2;noise 20 5;");
+        for (int i = 0; i < 12; i++) {
+            line.post(i % 4 - 1, (i + 1) % 4 - 1, 1 + i);
+        }
+        line.kill(0);
+        for (int turns = 0; turns < 30; turns++) {
+            line.saveState();
+            line.run(5);
+            String facts = PolledLineFacts.of(line);
+            line.undo();
+            line.run(50);
+            line.undo();
+            line.run(5);
+            Check.due("5 turns behind an undo behind " + turns, PolledLineFacts.of(line), facts);
+            line.run(50);
+            line.restoreState();
+            line.run(5);
+            Check.due("5 turns behind restoreState behind " + turns, PolledLineFacts.of(line), facts);
+            line.restoreState();
+            line.run(1);
+        }
+    }
+
+    private static void undoneMessages() {
+        PolledLine line = new PolledLine();
+        line.run(2);
+        line.post(0, 1, 3);
+        String facts = PolledLineFacts.of(line);
+        line.saveState();
+        line.undo();
+        line.run(1);
+        line.post(-1, 0, 4);
+        line.restoreState();
+        Check.due("another message in its place", PolledLineFacts.of(line), facts);
     }
 
     private static void whatIsNoChange() {

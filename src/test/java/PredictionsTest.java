@@ -196,6 +196,8 @@ public final class PredictionsTest {
         Check.due("a message that is lost", noisy(setup, 20, "x...").lostByNoise(1), 1);
         Check.due("a message that only comes later", noisy(setup, 20, "x...").lostByNoise(2), 0);
         Check.due("no noise", noisy(setup, 20, "...").lostByNoise(1), 0);
+        // The thing that is garbled has the remainder 0, so that a NOISE of 1 would still do it.
+        Check.due("without any noise", noisy(setup, 1, "x...").lostByNoise(1), 1);
         // What is garbled takes so long that the BUFFER is printed.
         PolledLine slow = Check.loaded("terminal a print 30;list a;line 20 2 5 8;" + Check.noise(20, "....xx"));
         slow.post(-1, 0, 1);

@@ -311,6 +311,10 @@ public final class QuestionsTest {
         Check.due("worst, with a greater number", last.worst(), 2);
         last.undo();
         Check.due("worst, undone", last.worst(), PolledLine.NONE);
+        PolledLine first = Check.loaded("terminal a;terminal b;list a b;line 1 1 5 0;");
+        first.kill(0);
+        first.run(2);
+        Check.due("worst, with the number 0", first.worst(), 0);
     }
 
     private static void meanTimeAndClearShare() {

@@ -11,6 +11,7 @@ public final class TextTest {
         setupSyntax();
         setupOtherErrors();
         setupOnlyReplacesWhenRight();
+        turnsBehindALoad();
         playScript();
         scriptStops();
         scriptErrors();
@@ -141,6 +142,8 @@ public final class TextTest {
         Check.loadFails("post a host 1;", PolledLine.SYNTAX, 0);
         Check.loadFails("terminals a;", PolledLine.SYNTAX, 0);
         Check.loadFails("term a;", PolledLine.SYNTAX, 0);
+        Check.loadFails("xerminal a;", PolledLine.SYNTAX, 0);
+        Check.loadFails("terminax a;", PolledLine.SYNTAX, 0);
         Check.loadFails("terminal a;list;", PolledLine.SYNTAX, 15);
         Check.loadFails("terminal a;list a 1;", PolledLine.SYNTAX, 18);
         Check.loadFails("terminal a;list a", PolledLine.SYNTAX, 17);
@@ -202,6 +205,38 @@ public final class TextTest {
         Check.due("nothing can be undone", line.count(12), 0);
         Check.throwsOnly(line, "no state is saved", java.util.NoSuchElementException.class, () -> line.restoreState());
         Check.due("the output stays", Check.output(line), "bob ann");
+    }
+
+    /** What is known from before the load must not show in the turns behind it. */
+    private static void turnsBehindALoad() {
+        String setup = "terminal a;terminal b;terminal c;list a b c;line 1 1 1 3;burst 2;noise 30 5;";
+        for (int turns = 1; turns <= 40; turns++) {
+            PolledLine line = Check.loaded(setup);
+            for (int i = 0; i < 12; i++) {
+                line.post(i % 4 - 1, (i + 1) % 4 - 1, 1 + i);
+            }
+            line.kill(turns % 3);
+            line.run(turns);
+            Check.feed(line, setup);
+            line.loadLine();
+            PolledLine fresh = Check.loaded(setup);
+            Check.outOfBounds(line, "no turn is kept", () -> line.turn(0, 0));
+            sameTurns(line, fresh, turns);
+        }
+    }
+
+    private static void sameTurns(PolledLine line, PolledLine fresh, int turns) {
+        for (int i = 0; i < 9; i++) {
+            line.post((i + 2) % 4 - 1, i % 4 - 1, 2);
+            fresh.post((i + 2) % 4 - 1, i % 4 - 1, 2);
+        }
+        line.kill(1);
+        fresh.kill(1);
+        for (int i = 0; i < 12; i++) {
+            line.run(1);
+            fresh.run(1);
+            Check.due("a load behind " + turns + " turns, then turn " + i, PolledLineFacts.of(line), PolledLineFacts.of(fresh));
+        }
     }
 
     private static void playScript() {

@@ -155,6 +155,13 @@ public final class TurnsTest {
         line.post(-1, 0, 1);
         line.run(10);
         Check.due("behind an empty BUFFER", line.message(3, 7) - line.message(3, 6), 7);
+        // The first one is in the BUFFER at 5 and is done at 15, while the second one, from 10 to 30, is on the line.
+        PolledLine emptied = Check.loaded("terminal a print 10;burst 5;");
+        emptied.post(-1, 0, 1);
+        emptied.post(-1, 0, 20);
+        emptied.run(20);
+        Check.due("a BUFFER that became empty on the way", Check.message(emptied, 0) + Check.message(emptied, 1),
+            "-1 0 1 3 0 0 5 15 -1 0 20 3 0 0 30 40 ");
         PolledLine quick = Check.loaded("terminal a room 1 print 0;burst 5;");
         quick.post(-1, 0, 3);
         quick.post(-1, 0, 3);
@@ -220,6 +227,10 @@ public final class TurnsTest {
         line.run(4);
         Check.due("a test that takes a message", Check.turn(line, 0).substring(0, 8) + line.count(9), "2 1 2 1 1");
         Check.due("tested as often", line.often(0, 2) + " " + line.often(1, 2) + " " + line.often(2, 2), "2 2 1");
+        PolledLine each = Check.loaded("terminal a;list a;line 1 1 1 1;");
+        each.kill(0);
+        each.run(3);
+        Check.due("REVIVE 1", each.turn(2, 0) + " " + each.turn(1, 0) + " " + each.turn(0, 0), "0 2 2");
     }
 
     private static void testsGarbled() {
@@ -321,6 +332,10 @@ public final class TurnsTest {
         Check.due("no place", kinds(line, 1), "3-1 ");
         line.addPlace(3);
         Check.due("one place", kinds(line, 1), "03 ");
+        PolledLine last = Check.loaded("terminal a;terminal b;terminal c;list a b c;line 5 1 1 0;");
+        last.run(3);
+        last.dropPlace(2);
+        Check.due("only the last place was dropped", kinds(last, 1), "00 ");
     }
 
     private static void seeds() {

@@ -15,6 +15,7 @@ public final class ChangesTest {
         undoOfEach();
         turnsBehindUndo();
         undoneMessages();
+        undoneTurns();
         whatIsNoChange();
         savedState();
         savedStateAndUndo();
@@ -239,6 +240,17 @@ public final class ChangesTest {
         line.post(-1, 0, 4);
         line.restoreState();
         Check.due("another message in its place", PolledLineFacts.of(line), facts);
+    }
+
+    private static void undoneTurns() {
+        PolledLine line = new PolledLine();
+        line.run(2);
+        line.run(1);
+        line.undo();
+        Check.due("turns that are kept", Check.turn(line, 0) + Check.turn(line, 1), "0 1 1 1 8 0 0 1 1 4 ");
+        Check.outOfBounds(line, "a turn that was undone", () -> line.turn(2, 0));
+        line.undo();
+        Check.outOfBounds(line, "all turns were undone", () -> line.turn(0, 0));
     }
 
     private static void whatIsNoChange() {

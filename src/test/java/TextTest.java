@@ -12,6 +12,7 @@ public final class TextTest {
         setupOtherErrors();
         setupOnlyReplacesWhenRight();
         turnsBehindALoad();
+        ringsBehindALoad();
         playScript();
         scriptStops();
         scriptErrors();
@@ -223,6 +224,29 @@ public final class TextTest {
             Check.outOfBounds(line, "no turn is kept", () -> line.turn(0, 0));
             sameTurns(line, fresh, turns);
         }
+    }
+
+    /** The rings begin at 0 once more: lists, selects and tests that went further are forgotten. */
+    private static void ringsBehindALoad() {
+        String setup = "terminal a;terminal b;terminal c;list a b c;line 1 1 1 4;burst 5;";
+        PolledLine line = Check.loaded(setup);
+        line.post(-1, 0, 1);
+        line.post(-1, 1, 1);
+        line.run(2);
+        line.kill(0);
+        line.kill(1);
+        line.run(7);
+        Check.due("polled, selected and tested", line.often(0, 0) + " " + line.often(1, 1) + " " + line.often(0, 2), "1 1 1");
+        Check.feed(line, setup);
+        line.loadLine();
+        Check.due("the first poll", line.nextKind() + " " + line.nextTerminal(), "0 0");
+        for (int i = 0; i < 3; i++) {
+            line.post(-1, i, 1);
+            line.kill(i);
+        }
+        Check.due("the first select", line.nextKind() + " " + line.nextTerminal(), "1 0");
+        line.run(3);
+        Check.due("the first test", line.nextKind() + " " + line.nextTerminal() + " " + line.off(), "2 0 7");
     }
 
     private static void sameTurns(PolledLine line, PolledLine fresh, int turns) {

@@ -336,6 +336,11 @@ public final class TurnsTest {
         last.run(3);
         last.dropPlace(2);
         Check.due("only the last place was dropped", kinds(last, 1), "00 ");
+        PolledLine many = Check.loaded("terminal a;terminal b;terminal c;list a b c a b;line 5 1 1 0;");
+        many.run(5);
+        many.dropPlace(3);
+        many.dropPlace(3);
+        Check.due("two places were dropped", kinds(many, 1), "00 ");
     }
 
     private static void seeds() {

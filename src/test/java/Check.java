@@ -18,7 +18,7 @@ final class Check {
 
     /** The call must throw just that exception, and change nothing that can be asked for. */
     static void throwsOnly(PolledLine line, String what, Class<?> exception, Call call) {
-        String before = PolledLineFacts.of(line);
+        String before = PolledLineFacts.withTheRest(line);
         Object got;
         try {
             got = call.make();
@@ -26,7 +26,7 @@ final class Check {
             got = e.getClass();
         }
         due(what, got, exception);
-        due(what + ": what can be asked for behind it", PolledLineFacts.of(line), before);
+        due(what + ": what can be asked for behind it", PolledLineFacts.withTheRest(line), before);
     }
 
     static void outOfBounds(PolledLine line, String what, Call call) {

@@ -24,6 +24,7 @@ public final class FaceTest {
         constants();
         classes();
         source();
+        namedTests();
         Check.end();
     }
 
@@ -134,6 +135,35 @@ public final class FaceTest {
         Matcher systems = Pattern.compile("\\b(System|Math|Arrays|Integer|Long)\\.(\\w+)").matcher(code);
         while (systems.find()) {
             Check.due("library", systems.group(), "System.arraycopy");
+        }
+    }
+
+    /** Each test that the table of boundary cases names must be there, and be called; each boundary test must be in the table. */
+    private static void namedTests() throws IOException {
+        TreeSet<String> named = new TreeSet<>();
+        Matcher names = Pattern.compile("`(\\w+Test)\\.(\\w+)`").matcher(Files.readString(Path.of("src/test/BOUNDARIES.md"), StandardCharsets.UTF_8));
+        while (names.find()) {
+            named.add(names.group(1) + "." + names.group(2));
+        }
+        TreeSet<String> called = new TreeSet<>();
+        TreeSet<String> boundaryTests = new TreeSet<>();
+        String[] tests = {"BoundaryTermsTest", "BoundaryTextsTest", "BoundaryCallsTest", "TextTest", "TurnsTest"};
+        for (String test : tests) {
+            String text = Files.readString(Path.of("src/test/java/" + test + ".java"), StandardCharsets.UTF_8);
+            String main = text.substring(text.indexOf("main("), text.indexOf("Check.end()"));
+            Matcher calls = Pattern.compile("(?m)^ +(\\w+)\\(\\);").matcher(main);
+            while (calls.find()) {
+                called.add(test + "." + calls.group(1));
+                if (test.startsWith("Boundary")) {
+                    boundaryTests.add(test + "." + calls.group(1));
+                }
+            }
+        }
+        for (String test : named) {
+            Check.due("the table names " + test + ", which is called", called.contains(test), true);
+        }
+        for (String test : boundaryTests) {
+            Check.due(test + " is in the table", named.contains(test), true);
         }
     }
 }

@@ -41,6 +41,16 @@ final class PolledLineFacts {
         return text.toString();
     }
 
+    /** The same with the input buffer's length, the error, the output and how many changes can be undone. */
+    static String withTheRest(PolledLine line) {
+        int length = 600;
+        while (length > 0 && !line.truncateInput(length)) {
+            length--;
+        }
+        return of(line) + " input " + length + " error " + line.errorCode() + " at " + line.errorOffset() + " output " + Check.output(line)
+            + " changes " + line.count(12);
+    }
+
     private static void addTerminal(StringBuilder text, PolledLine line, int terminal) {
         text.append("| terminal ");
         for (int index = 0; index < 6; index++) {

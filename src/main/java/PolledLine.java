@@ -873,11 +873,15 @@ public final class PolledLine {
         }
 
         void countOften(int what, int terminal) {
-            often[what * MAX_TERMINALS + terminal]++;
+            int at = what * MAX_TERMINALS + terminal;
+            if (at >= 0 && at < OFTEN * MAX_TERMINALS) {
+                often[at]++;
+            }
         }
 
         int oftenOf(int what, int terminal) {
-            return often[what * MAX_TERMINALS + terminal];
+            int at = what * MAX_TERMINALS + terminal;
+            return at >= 0 && at < OFTEN * MAX_TERMINALS ? often[at] : 0;
         }
 
         void copyFrom(Stations other) {
@@ -1149,7 +1153,7 @@ public final class PolledLine {
             if (terminal == NONE) {
                 kind = POLL;
                 place = nextPlace();
-                terminal = place == NONE ? NONE : line.list[place];
+                terminal = line.hasPlace(place) ? line.list[place] : NONE;
             }
             if (terminal == NONE) {
                 kind = SELECT;
@@ -1209,10 +1213,7 @@ public final class PolledLine {
             choose(line.turn);
             int tries = 0;
             int result = MISSED;
-            if (kind == IDLE) {
-                line.time++;
-                line.accounts[IDLE_TURNS]++;
-            } else {
+            if (line.setup.has(terminal)) {
                 noteBeginning();
                 int most = kind == TEST ? 1 : line.settings[TRIES];
                 while (tries < most && result == MISSED) {
@@ -1223,6 +1224,9 @@ public final class PolledLine {
                     }
                 }
                 noteEnd(result);
+            } else {
+                line.time++;
+                line.accounts[IDLE_TURNS]++;
             }
             for (int i = 0; i < line.setup.size; i++) {
                 line.deliverDue(i);

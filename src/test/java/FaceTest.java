@@ -1,5 +1,7 @@
 import java.io.IOException;
+import java.lang.reflect.Constructor;
 import java.lang.reflect.Field;
+import java.lang.reflect.InvocationTargetException;
 import java.lang.reflect.Member;
 import java.lang.reflect.Method;
 import java.lang.reflect.Modifier;
@@ -18,12 +20,13 @@ public final class FaceTest {
     private static final Path DOCUMENT = Path.of("../shared/DOC.md");
     private static final Path SOURCE = Path.of("src/main/java/PolledLine.java");
 
-    public static void main(String[] args) throws IOException {
+    public static void main(String[] args) throws IOException, ReflectiveOperationException {
         faceIsThatOfTheDocument();
         allElseIsPrivate();
         constants();
         classes();
         source();
+        indicesAreLookedAt();
         namedTests();
         Check.end();
     }
@@ -135,6 +138,32 @@ public final class FaceTest {
         Matcher systems = Pattern.compile("\\b(System|Math|Arrays|Integer|Long)\\.(\\w+)").matcher(code);
         while (systems.find()) {
             Check.due("library", systems.group(), "System.arraycopy");
+        }
+    }
+
+    /** Rule 7: what is kept by terminals looks at a number before it is an index, whoever asks with it. */
+    private static void indicesAreLookedAt() throws ReflectiveOperationException {
+        int[] wrong = {Integer.MIN_VALUE, -200, 200, Integer.MAX_VALUE};
+        String[] asked = {"Rows.sizeOf", "Rows.firstOf", "Rows.removeFirst", "Stations.countOften", "Stations.oftenOf"};
+        for (String name : asked) {
+            for (int number : wrong) {
+                Check.due(name + "(0, " + number + ") throws", throwsWith(name, 0, number), false);
+                Check.due(name + "(" + number + ", 7) throws", throwsWith(name, number, 7), false);
+            }
+        }
+    }
+
+    private static boolean throwsWith(String name, int first, int second) throws ReflectiveOperationException {
+        Class<?> type = Class.forName("PolledLine$" + name.substring(0, name.indexOf('.')));
+        Constructor<?> constructor = type.getDeclaredConstructor();
+        Method method = type.getDeclaredMethod(name.substring(name.indexOf('.') + 1), int.class, int.class);
+        constructor.setAccessible(true);
+        method.setAccessible(true);
+        try {
+            method.invoke(constructor.newInstance(), first, second);
+            return false;
+        } catch (InvocationTargetException e) {
+            return true;
         }
     }
 

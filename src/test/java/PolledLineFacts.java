@@ -4,6 +4,10 @@ final class PolledLineFacts {
     }
 
     static String of(PolledLine line) {
+        return of(Asked.of(line));
+    }
+
+    static String of(Asked line) {
         StringBuilder text = new StringBuilder();
         for (int what = 0; what <= 11; what++) {
             text.append(line.count(what)).append(' ');
@@ -51,7 +55,7 @@ final class PolledLineFacts {
             + " changes " + line.count(12);
     }
 
-    private static void addTerminal(StringBuilder text, PolledLine line, int terminal) {
+    private static void addTerminal(StringBuilder text, Asked line, int terminal) {
         text.append("| terminal ");
         for (int index = 0; index < 6; index++) {
             text.append(line.nameLetter(terminal, index)).append('.');

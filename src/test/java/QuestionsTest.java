@@ -12,6 +12,7 @@ public final class QuestionsTest {
         places();
         keptTurns();
         whatComesNext();
+        oftenCountsNoTries();
         worstAndOften();
         meanTimeAndClearShare();
         Check.end();
@@ -273,6 +274,23 @@ public final class QuestionsTest {
             text.append(line.often(terminal, what)).append(' ');
         }
         return text.toString();
+    }
+
+    /** A poll and a select count once each, and are missed once, however many tries they have. */
+    private static void oftenCountsNoTries() {
+        PolledLine line = Check.loaded("terminal a;list a;line 1 3 5 4;" + Check.noise(20, "x.."));
+        line.run(1);
+        Check.due("a poll of two tries", Check.turn(line, 0) + often(line, 0), "0 0 1 2 6 1 0 0 0 ");
+        line.kill(0);
+        line.post(-1, 0, 1);
+        line.run(1);
+        Check.due("a select of three tries", Check.turn(line, 0) + often(line, 0), "1 0 0 3 12 1 1 0 1 ");
+        line.run(1);
+        Check.due("a poll of three tries", Check.turn(line, 0) + often(line, 0), "0 0 0 3 18 2 1 0 2 ");
+        Check.due("MISSES, tries that failed, missed", line.terminal(0, 5) + " " + line.account(7) + " " + line.account(8), "2 7 2");
+        line.set(4, 2);
+        line.run(2);
+        Check.due("the second select behind the poll", Check.turn(line, 0) + often(line, 0), "1 0 0 3 30 2 3 0 4 ");
     }
 
     private static void worstAndOften() {

@@ -93,9 +93,10 @@ public final class RandomRunsTest {
         String call = "run " + run + ": " + method.getName() + java.util.Arrays.toString(arguments);
         Check.due(call, got, want);
         boolean same = want.equals(got);
-        for (int what = 0; same && what <= 12; what++) {
-            same = line.count(what) == slow.count(what) && line.account(what) == slow.account(what);
-            if (!same) Check.due(call + ", then count or account " + what, line.count(what) + " " + line.account(what), slow.count(what) + " " + slow.account(what));
+        if (same) {
+            String facts = PolledLineFacts.of(slow);
+            same = facts.equals(PolledLineFacts.of(line)) && line.count(12) == slow.count(12);
+            Check.due(call + ", then all that can be asked for", PolledLineFacts.of(line) + line.count(12), facts + slow.count(12));
         }
         same &= line.errorCode() == slow.errorCode() && line.errorOffset() == slow.errorOffset();
         if (!same) Check.due(call + ", then the error", line.errorCode() + " at " + line.errorOffset(), slow.errorCode() + " at " + slow.errorOffset());

@@ -4,7 +4,7 @@ import java.util.List;
 import java.util.NoSuchElementException;
 
 /** The document once more, as plainly as can be: time passes tick by tick, and everything that is kept is a deep copy. */
-final class SlowLine {
+final class SlowLine implements Asked {
     private static final String[] SETUP_ONCE = {"list", "line", "burst", "noise"};
     private static final int[] LOW = {1, 1, 1, 0, 0, 0};
     private static final int[] HIGH = {20, 5, 5, 20, 5, 99};
